@@ -18,24 +18,24 @@ final class Checks {
     private int count;
     private int wrong;
 
-    void due(String call, long due, Answer answer) {
-        String got;
+    /** The answer, or the name of the very class that is thrown: the Java machine throws subclasses. */
+    static String outcome(Answer answer) {
         try {
-            got = Long.toString(answer.get());
+            return Long.toString(answer.get());
         } catch (Throwable thrown) {
-            got = thrown.getClass().getName();
+            return thrown.getClass().getName();
         }
-        same(call, got, Long.toString(due));
     }
 
-    /** The very class is due: a subclass would be one that the Java machine throws. */
+    void due(String call, long due, Answer answer) {
+        same(call, outcome(answer), Long.toString(due));
+    }
+
     void refused(String call, Class<? extends Throwable> due, Act act) {
-        String got = "nothing thrown";
-        try {
+        String got = outcome(() -> {
             act.run();
-        } catch (Throwable thrown) {
-            got = thrown.getClass().getName();
-        }
+            return 0;
+        });
         same(call, got, due.getName());
     }
 
