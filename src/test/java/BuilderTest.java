@@ -113,6 +113,7 @@ public final class BuilderTest {
     private static int[] reversed(int... units) {
         TextDesk x = new TextDesk();
         Desks.build(x, units);
+        x.delete(0, 0);
         x.reverse();
         return Desks.built(x);
     }

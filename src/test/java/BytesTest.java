@@ -29,6 +29,7 @@ public final class BytesTest {
         checks.row("19: UTF-8", encoded(UTF_8, 0, 127, 128, 2047, 2048, 65535),
                 0, 127, 194, 128, 223, 191, 224, 160, 128, 239, 191, 191);
         checks.row("19: UTF-8 pairs", encoded(UTF_8, HIGH, LOW, 56319, 57343), 240, 144, 128, 128, 244, 143, 191, 191);
+        checks.row("19: UTF-8 53248 and 262144", encoded(UTF_8, 53248, 55488, LOW), 237, 128, 128, 241, 128, 128, 128);
         checks.row("19: UTF-8 lone units", encoded(UTF_8, LOW, HIGH, 97, HIGH), 63, 63, 97, 63);
         checks.row("19: UTF-8 high before a pair", encoded(UTF_8, HIGH, HIGH, LOW, LOW), 63, 240, 144, 128, 128, 63);
         checks.row("19: MODIFIED", encoded(MODIFIED, 0, 1, 127, 128, 2047, 2048, 65535),
@@ -103,6 +104,9 @@ public final class BytesTest {
         checks.row("21: a high unit", decoded(UTF_8, 237, 160, 128), BAD, BAD, BAD);
         checks.row("21: beside the high units", decoded(UTF_8, 237, 159, 191, 238, 128, 128), 55295, 57344);
         checks.row("21: above all", decoded(UTF_8, 244, 144, 128, 128), BAD, BAD, BAD, BAD);
+        checks.row("21: far above all", decoded(UTF_8, 245, 128, 128, 128), BAD, BAD, BAD, BAD);
+        checks.row("21: 192 goes on with nothing", decoded(UTF_8, 194, 192, 226, 130, 192), BAD, BAD, BAD, BAD);
+        checks.row("21: a low unit that is not 0", decoded(UTF_8, 240, 144, 128, 129), HIGH, LOW + 1);
         checks.row("21: 65533 itself is good", decoded(UTF_8, 239, 191, 189), BAD);
     }
 
@@ -113,6 +117,7 @@ public final class BytesTest {
         checks.row("21: MODIFIED 192 alone", decoded(MODIFIED, 192, 129, 192), BAD, BAD, BAD);
         checks.row("21: MODIFIED 193", decoded(MODIFIED, 193, 128), BAD, BAD);
         checks.row("21: MODIFIED cut off", decoded(MODIFIED, 224, 160, 97, 239, 191), BAD, 97, BAD);
+        checks.row("21: MODIFIED 194, 192", decoded(MODIFIED, 194, 192, 128), BAD, 0);
         checks.row("21: MODIFIED four bytes", decoded(MODIFIED, 240, 144, 128, 128), BAD, BAD, BAD, BAD);
     }
 
