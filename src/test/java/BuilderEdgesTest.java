@@ -160,7 +160,8 @@ public final class BuilderEdgesTest {
         refusals.due("3: place -1 of 0", empty, Checks.ARGUMENT, x -> x.insert(-1, 0));
         refusals.due("3: place 61 of 60, and more than 60", Scenes::full, Checks.ARGUMENT,
                 x -> x.insert(61, Scenes.SHORT_TEXT));
-        refusals.due("3: place -1, and more than 60", Scenes::full, Checks.ARGUMENT, x -> x.insert(-1, Scenes.LONG_TEXT));
+        refusals.due("3: place -1, and more than 60", Scenes::full, Checks.ARGUMENT,
+                x -> x.insert(-1, Scenes.LONG_TEXT));
     }
 
     /** "IllegalStateException: it would hold more than 60". */

@@ -74,6 +74,8 @@ public final class ByteEdgesTest {
         checks.row("19: 65535", encoded(UTF_8, 65535), 239, 191, 191);
         checks.row("19: 65536", encoded(UTF_8, 55296, 56320), 240, 144, 128, 128);
         checks.row("19: 66559", encoded(UTF_8, 55296, 57343), 240, 144, 143, 191);
+        checks.row("19: 262143", encoded(UTF_8, 55487, 57343), 240, 191, 191, 191);
+        checks.row("19: 262144", encoded(UTF_8, 55488, 56320), 241, 128, 128, 128);
         checks.row("19: 1113088", encoded(UTF_8, 56319, 56320), 244, 143, 176, 128);
         checks.row("19: 1114111", encoded(UTF_8, 56319, 57343), 244, 143, 191, 191);
     }
@@ -193,6 +195,11 @@ public final class ByteEdgesTest {
         checks.row("21: 2048 and 65535", decoded(UTF_8, 224, 160, 128, 239, 191, 191), 2048, 65535);
         checks.row("21: 55295 and 57344", decoded(UTF_8, 237, 159, 191, 238, 128, 128), 55295, 57344);
         checks.row("21: 65536", decoded(UTF_8, 240, 144, 128, 128), 55296, 56320);
+        checks.row("21: 66559", decoded(UTF_8, 240, 144, 143, 191), 55296, 57343);
+        checks.row("21: 66560", decoded(UTF_8, 240, 144, 144, 128), 55297, 56320);
+        checks.row("21: 262143", decoded(UTF_8, 240, 191, 191, 191), 55487, 57343);
+        checks.row("21: 262144", decoded(UTF_8, 241, 128, 128, 128), 55488, 56320);
+        checks.row("21: 1113088", decoded(UTF_8, 244, 143, 176, 128), 56319, 56320);
         checks.row("21: 1114111", decoded(UTF_8, 244, 143, 191, 191), 56319, 57343);
     }
 
@@ -212,7 +219,8 @@ public final class ByteEdgesTest {
         }
         checks.row("21: below 2048 in three", decoded(UTF_8, 224, 159, 128), BAD, BAD, BAD);
         checks.row("21: 2048 cut off by 97", decoded(UTF_8, 224, 160, 97), BAD, 97);
-        checks.row("21: high and low in three", decoded(UTF_8, 237, 160, 128, 237, 191, 191), BAD, BAD, BAD, BAD, BAD, BAD);
+        checks.row("21: the lowest high one", decoded(UTF_8, 237, 160, 128), BAD, BAD, BAD);
+        checks.row("21: the highest low one", decoded(UTF_8, 237, 191, 191), BAD, BAD, BAD);
         checks.row("21: 55295 cut off by 97", decoded(UTF_8, 237, 159, 97), BAD, 97);
         checks.row("21: below 65536 in four", decoded(UTF_8, 240, 143, 191, 191), BAD, BAD, BAD, BAD);
         checks.row("21: 65536 cut off by 97", decoded(UTF_8, 240, 144, 97), BAD, 97);
@@ -253,7 +261,12 @@ public final class ByteEdgesTest {
             checks.row("21: MODIFIED " + first + " alone", decoded(MODIFIED, first), BAD);
             checks.row("21: MODIFIED " + first + " before 128", decoded(MODIFIED, first, 128), BAD, BAD);
         }
-        checks.row("21: MODIFIED 192, 127", decoded(MODIFIED, 192, 127), BAD, 127);
+        for (int first : new int[] {192, 194, 223, 224, 237, 239}) {
+            checks.row("21: MODIFIED " + first + ", 127", decoded(MODIFIED, first, 127), BAD, 127);
+            checks.row("21: MODIFIED " + first + ", 192", decoded(MODIFIED, first, 192), BAD, BAD);
+        }
+        checks.row("21: MODIFIED 65536 in four", decoded(MODIFIED, 240, 144, 128, 128), BAD, BAD, BAD, BAD);
+        checks.row("21: MODIFIED third byte 192", decoded(MODIFIED, 225, 128, 192), BAD, BAD);
         checks.row("21: MODIFIED 192, 129", decoded(MODIFIED, 192, 129), BAD, BAD);
         checks.row("21: MODIFIED 192 at the end", decoded(MODIFIED, 97, 192), 97, BAD);
         checks.row("21: MODIFIED one of two", decoded(MODIFIED, 97, 223), 97, BAD);
@@ -321,7 +334,8 @@ public final class ByteEdgesTest {
     private static void decodeRefused() {
         for (int encoding = UTF_8; encoding <= LITTLE; encoding++) {
             int number = encoding;
-            refusals.due("21: strict in " + encoding, Scenes::ordinary, Checks.UNSUPPORTED, x -> x.decode(number, true));
+            refusals.due("21: strict in " + encoding, Scenes::ordinary, Checks.UNSUPPORTED,
+                    x -> x.decode(number, true));
             checks.due("21: not strict in " + encoding, 5, () -> Scenes.ordinary().decode(number, false));
         }
         strictRefused(UTF_8, 255, 97, 97);

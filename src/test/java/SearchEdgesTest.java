@@ -29,14 +29,6 @@ public final class SearchEdgesTest {
         checks.end();
     }
 
-    private static TextDesk desk(String... texts) {
-        TextDesk x = new TextDesk();
-        for (String text : texts) {
-            Desks.text(x, text);
-        }
-        return x;
-    }
-
     /** "The first unit in which a and b differ, that of a less that of b". */
     private static void compareFirstUnitThatDiffers() {
         compared("the widest way down", "\0", "\uffff", -65535);
@@ -66,7 +58,7 @@ public final class SearchEdgesTest {
     }
 
     private static void compared(String what, String a, String b, int due) {
-        checks.due("16: " + what, due, () -> desk(a, b).compare(0, 1));
+        checks.due("16: " + what, due, () -> Desks.with(a, b).compare(0, 1));
     }
 
     /** "IllegalArgumentException: no such texts". */
@@ -160,7 +152,7 @@ public final class SearchEdgesTest {
 
     private static void found(String a, String b, int from, boolean last, int due) {
         checks.due("17: find " + b + " in " + a + " from " + from + ", " + last, due,
-                () -> desk(a, b).find(0, 1, from, last));
+                () -> Desks.with(a, b).find(0, 1, from, last));
     }
 
     /** "IllegalArgumentException: no such texts". */
@@ -177,7 +169,7 @@ public final class SearchEdgesTest {
 
     /** "the same for equal texts", however they were made. */
     private static void symbolSameForEqualTexts() {
-        TextDesk x = desk("ab", "a", "b", "");
+        TextDesk x = Desks.with("ab", "a", "b", "");
         checks.due("18: ab", 0, () -> x.symbol(0));
         checks.due("18: joined", 0, () -> x.symbol(x.join(1, 2)));
         checks.due("18: a part", 0, () -> x.symbol(x.part(0, 0, 2)));
@@ -187,7 +179,7 @@ public final class SearchEdgesTest {
         checks.due("18: the empty text", 1, () -> x.symbol(3));
         checks.due("18: another empty one", 1, () -> x.symbol(x.take()));
         checks.due("18: a beginning of ab", 2, () -> x.symbol(1));
-        TextDesk y = desk("Aa", "BB", "a", "\u0161");
+        TextDesk y = Desks.with("Aa", "BB", "a", "\u0161");
         checks.due("18: Aa", 0, () -> y.symbol(0));
         checks.due("18: BB, of the same hash", 1, () -> y.symbol(1));
         checks.due("18: the unit 97", 2, () -> y.symbol(2));
@@ -196,7 +188,7 @@ public final class SearchEdgesTest {
 
     /** "0, 1, .. as they are new". */
     private static void symbolsFrom0AsTheyAreNew() {
-        TextDesk x = desk("a", "b", "c");
+        TextDesk x = Desks.with("a", "b", "c");
         checks.due("18: the first, text 2", 0, () -> x.symbol(2));
         checks.due("18: the first again", 0, () -> x.symbol(2));
         checks.due("18: the second, text 0", 1, () -> x.symbol(0));

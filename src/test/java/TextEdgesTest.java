@@ -44,17 +44,9 @@ public final class TextEdgesTest {
         checks.end();
     }
 
-    private static TextDesk desk(String... texts) {
-        TextDesk x = new TextDesk();
-        for (String text : texts) {
-            Desks.text(x, text);
-        }
-        return x;
-    }
-
     /** "b behind a", where one is empty, or both are. */
     private static void joinWithEmptyTexts() {
-        TextDesk x = desk("ab", "");
+        TextDesk x = Desks.with("ab", "");
         checks.row("8: a empty", Desks.units(x, x.join(1, 0)), 'a', 'b');
         checks.row("8: b empty", Desks.units(x, x.join(0, 1)), 'a', 'b');
         checks.row("8: both empty", Desks.units(x, x.join(1, 1)));
@@ -116,7 +108,7 @@ public final class TextEdgesTest {
     }
 
     private static int[] parted(String text, int from, int to) {
-        TextDesk x = desk(text);
+        TextDesk x = Desks.with(text);
         checks.due("9: its number", 1, () -> x.part(0, from, to));
         return Desks.units(x, 1);
     }
@@ -164,7 +156,8 @@ public final class TextEdgesTest {
         refusals.due("9: part(2, 1, 1), an empty text", Scenes::ordinary, Checks.BOUNDS, x -> x.part(2, 1, 1));
         refusals.due("9: part(3, 0, 8), a joined text", Scenes::ordinary, Checks.BOUNDS, x -> x.part(3, 0, 8));
         refusals.due("9: 61 of 60", Scenes::nearlyFull, Checks.BOUNDS, x -> x.part(Scenes.LONG_TEXT, 0, 61));
-        refusals.due("9: no range, and there are 24", Scenes::full, Checks.BOUNDS, x -> x.part(Scenes.LONG_TEXT, 0, 61));
+        refusals.due("9: no range, and there are 24", Scenes::full, Checks.BOUNDS,
+                x -> x.part(Scenes.LONG_TEXT, 0, 61));
     }
 
     private static void partRefused(int from, int to) {
@@ -214,7 +207,7 @@ public final class TextEdgesTest {
     }
 
     private static int[] replaced(String a, String b, String c) {
-        TextDesk x = desk(a, b, c);
+        TextDesk x = Desks.with(a, b, c);
         checks.due("10: its number", 3, () -> x.replace(0, 1, 2));
         return Desks.units(x, 3);
     }
@@ -265,7 +258,7 @@ public final class TextEdgesTest {
     }
 
     private static void longReplaced(String what, String a, String b, String c, int length) {
-        TextDesk x = desk(a, b, c);
+        TextDesk x = Desks.with(a, b, c);
         String name = "10: " + length + " units, " + what;
         if (length > 60) {
             checks.refused(name, Checks.STATE, () -> x.replace(0, 1, 2));
@@ -371,9 +364,9 @@ public final class TextEdgesTest {
             refusals.answered("13: asking for it", Scenes::ordinary, x -> x.character(number, -1));
         }
         checks.due("13: 60", 60, () -> Scenes.full().character(Scenes.LONG_TEXT, -1));
-        checks.due("13: 30 pairs", 30, () -> desk("\ud800\udc00".repeat(30)).character(0, -1));
-        checks.due("13: 60 high ones", 60, () -> desk("\ud800".repeat(60)).character(0, -1));
-        checks.due("13: 60 low ones", 60, () -> desk("\udc00".repeat(60)).character(0, -1));
+        checks.due("13: 30 pairs", 30, () -> Desks.with("\ud800\udc00".repeat(30)).character(0, -1));
+        checks.due("13: 60 high ones", 60, () -> Desks.with("\ud800".repeat(60)).character(0, -1));
+        checks.due("13: 60 low ones", 60, () -> Desks.with("\udc00".repeat(60)).character(0, -1));
     }
 
     /** "As for at": no such text. */
@@ -399,13 +392,13 @@ public final class TextEdgesTest {
                         x -> x.character(number, none));
             }
         }
-        TextDesk pairs = desk("\udbff\udfff".repeat(30));
+        TextDesk pairs = Desks.with("\udbff\udfff".repeat(30));
         checks.due("13: character 29 of 30 pairs", 1114111, () -> pairs.character(0, 29));
         checks.refused("13: character 30 of 30 pairs", Checks.BOUNDS, () -> pairs.character(0, 30));
         checks.due("13: character 59 of 60", 2048, () -> Scenes.full().character(Scenes.LONG_TEXT, 59));
         checks.refused("13: character 60 of 60", Checks.BOUNDS, () -> Scenes.full().character(Scenes.LONG_TEXT, 60));
-        checks.due("13: a lone high one at the end", HIGH, () -> desk("a\ud800").character(0, 1));
-        checks.due("13: a lone low one at the beginning", LOW, () -> desk("\udc00a").character(0, 0));
+        checks.due("13: a lone high one at the end", HIGH, () -> Desks.with("a\ud800").character(0, 1));
+        checks.due("13: a lone low one at the beginning", LOW, () -> Desks.with("\udc00a").character(0, 0));
     }
 
     /** "NARROW when all its units are below 256". */
@@ -445,9 +438,9 @@ public final class TextEdgesTest {
     /** "from 0 on", where there is no unit. */
     private static void hashOfTheEmptyText() {
         checks.due("15: an empty text", 0, () -> Scenes.ordinary().hash(2));
-        checks.due("15: the unit 0", 0, () -> desk("\0").hash(0));
-        checks.due("15: 60 times the unit 0", 0, () -> desk("\0".repeat(60)).hash(0));
-        checks.due("15: the unit 65535", 65535, () -> desk("\uffff").hash(0));
+        checks.due("15: the unit 0", 0, () -> Desks.with("\0").hash(0));
+        checks.due("15: 60 times the unit 0", 0, () -> Desks.with("\0".repeat(60)).hash(0));
+        checks.due("15: the unit 65535", 65535, () -> Desks.with("\uffff").hash(0));
         refusals.answered("15: asking", Scenes::ordinary, x -> x.hash(3));
     }
 

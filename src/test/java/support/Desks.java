@@ -19,6 +19,15 @@ final class Desks {
         return text(desk, units.chars().toArray());
     }
 
+    /** A new desk that has these texts. */
+    static TextDesk with(String... texts) {
+        TextDesk desk = new TextDesk();
+        for (String text : texts) {
+            text(desk, text);
+        }
+        return desk;
+    }
+
     static int[] times(int unit, int count) {
         int[] row = new int[count];
         java.util.Arrays.fill(row, unit);

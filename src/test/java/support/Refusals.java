@@ -47,9 +47,20 @@ final class Refusals {
             same(call + ": text " + text, scene, after, 61, (desk, k) -> desk.at(number, k));
         }
         same(call + ": symbols", scene, after, 24, TextDesk::symbol);
-        same(call + ": the next text", scene, after, 0, (desk, k) -> desk.take());
-        same(call + ": the next unit", scene, after, 0, (desk, k) -> desk.unit(7));
-        same(call + ": the next byte", scene, after, 0, (desk, k) -> desk.type(7));
+        nextCallsAnswerTheSame(call + ": the next ", scene, after);
+    }
+
+    /** Shows what cannot be asked for: how many texts there are, and whatever a refused call may leave behind. */
+    private void nextCallsAnswerTheSame(String call, Scenes.Scene scene, Scenes.Scene after) {
+        same(call + "unit", scene, after, 0, (desk, k) -> desk.unit(7));
+        same(call + "insert", scene, after, 23, (desk, k) -> desk.insert(0, k));
+        same(call + "take", scene, after, 0, (desk, k) -> desk.take());
+        same(call + "join", scene, after, 23, (desk, k) -> desk.join(k, 2));
+        same(call + "part", scene, after, 23, (desk, k) -> desk.part(k, 0, 0));
+        same(call + "replace", scene, after, 23, (desk, k) -> desk.replace(k, k, 2));
+        same(call + "strip", scene, after, 23, (desk, k) -> desk.strip(k));
+        same(call + "type", scene, after, 0, (desk, k) -> desk.type(7));
+        same(call + "decode", scene, after, 4, (desk, k) -> desk.decode(k, false));
     }
 
     private void same(String what, Scenes.Scene before, Scenes.Scene after, int last, Look look) {
