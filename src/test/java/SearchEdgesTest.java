@@ -179,6 +179,10 @@ public final class SearchEdgesTest {
         checks.due("18: the empty text", 1, () -> x.symbol(3));
         checks.due("18: another empty one", 1, () -> x.symbol(x.take()));
         checks.due("18: a beginning of ab", 2, () -> x.symbol(1));
+        TextDesk last = Desks.with("a".repeat(60), "a".repeat(59) + "b", "b" + "a".repeat(59));
+        checks.due("18: 60 units", 0, () -> last.symbol(0));
+        checks.due("18: the last one differs", 1, () -> last.symbol(1));
+        checks.due("18: the first one differs", 2, () -> last.symbol(2));
         TextDesk y = Desks.with("Aa", "BB", "a", "\u0161");
         checks.due("18: Aa", 0, () -> y.symbol(0));
         checks.due("18: BB, of the same hash", 1, () -> y.symbol(1));

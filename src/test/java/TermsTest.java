@@ -303,7 +303,21 @@ public final class TermsTest {
             checks.due("decode", 0, () -> y.decode(1, true));
         }
         checks.due("the last unit", 3000, () -> y.at(0, 59));
+        filledAgainAndAgain();
         joinedAgainAndAgain();
+    }
+
+    /** A builder that is filled, emptied and filled again has room for 60 each time. */
+    private static void filledAgainAndAgain() {
+        TextDesk x = new TextDesk();
+        for (int round = 0; round < 8; round++) {
+            for (int count = 1; count <= 60; count++) {
+                int number = count;
+                checks.due("unit " + count + " of round " + round, count, () -> x.unit(number));
+            }
+            checks.refused("the 61st of round " + round, Checks.STATE, () -> x.unit(61));
+            x.delete(0, 60);
+        }
     }
 
     /** A text that is joined as deep as 24 texts allow, cleared, and joined so again. */
