@@ -29,10 +29,9 @@ public final class TextDesk {
     /** As k it asks for a length; as an answer it says that there is nothing at a place. */
     private static final int NONE = -1;
 
+    /** Both are filled from the front; the rest is null. */
     private final Text[] texts;
-    private int textCount;
     private final Text[] symbols;
-    private int symbolCount;
     private final Row bytes;
     private final Decoder decoder;
     private Row builder;
@@ -84,13 +83,13 @@ public final class TextDesk {
     public void reverse() {
         draft.drop();
         for (int k = builder.size() - 1; k >= 0; k--) {
-            if (isPairAt(builder, k - 1)) {
-                draft.append(builder.get(k - 1));
-                draft.append(builder.get(k));
+            int unit = builder.get(k);
+            int before = builder.get(k - 1);
+            if (isPair(before, unit)) {
+                draft.append(before);
                 k--;
-            } else {
-                draft.append(builder.get(k));
             }
+            draft.append(unit);
         }
         makeDraftTheBuilder();
     }
@@ -202,17 +201,16 @@ public final class TextDesk {
 
     public int symbol(int text) throws IllegalArgumentException, IllegalStateException {
         Text named = textNumbered(text);
-        for (int k = 0; k < symbolCount && k < symbols.length; k++) {
+        for (int k = 0; k < symbols.length; k++) {
+            if (symbols[k] == null) {
+                symbols[k] = named;
+                return k;
+            }
             if (difference(symbols[k], named) == 0) {
                 return k;
             }
         }
-        if (symbolCount >= symbols.length) {
-            throw new IllegalStateException("the table of symbols is full");
-        }
-        symbols[symbolCount] = named;
-        symbolCount++;
-        return symbolCount - 1;
+        throw new IllegalStateException("the table of symbols is full");
     }
 
     public int encode(int text, int encoding) throws IllegalArgumentException {
@@ -256,27 +254,26 @@ public final class TextDesk {
         for (int k = 0; k < texts.length; k++) {
             texts[k] = null;
         }
-        textCount = 0;
         for (int k = 0; k < symbols.length; k++) {
             symbols[k] = null;
         }
-        symbolCount = 0;
     }
 
     private Text textNumbered(int number) {
-        if (number < 0 || number >= textCount || number >= texts.length) {
+        if (number < 0 || number >= texts.length || texts[number] == null) {
             throw new IllegalArgumentException("no such text");
         }
         return texts[number];
     }
 
     private int keepText(Text text) {
-        if (textCount >= texts.length) {
-            throw new IllegalStateException("there is no room for a text");
+        for (int k = 0; k < texts.length; k++) {
+            if (texts[k] == null) {
+                texts[k] = text;
+                return k;
+            }
         }
-        texts[textCount] = text;
-        textCount++;
-        return textCount - 1;
+        throw new IllegalStateException("there is no room for a text");
     }
 
     private int keepRange(Text whole, int from, int to) {
@@ -351,16 +348,17 @@ public final class TextDesk {
         return unit >= FIRST_LOW && unit < FIRST_LOW + LOW_COUNT;
     }
 
-    private static boolean isPairAt(Sequence units, int place) {
-        return isHigh(units.get(place)) && isLow(units.get(place + 1));
+    private static boolean isPair(int first, int second) {
+        return isHigh(first) && isLow(second);
     }
 
     private static int characterAt(Sequence units, int place) {
         int first = units.get(place);
-        if (!isPairAt(units, place)) {
+        int second = units.get(place + 1);
+        if (!isPair(first, second)) {
             return first;
         }
-        return UNIT_COUNT + (first - FIRST_HIGH) * LOW_COUNT + units.get(place + 1) - FIRST_LOW;
+        return UNIT_COUNT + (first - FIRST_HIGH) * LOW_COUNT + second - FIRST_LOW;
     }
 
     private static int difference(Text a, Text b) {
