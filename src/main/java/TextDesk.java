@@ -29,7 +29,7 @@ public final class TextDesk {
     /** As k it asks for a length; as an answer it says that there is nothing at a place. */
     private static final int NONE = -1;
 
-    /** Both are filled from the front; the rest is null. */
+    /** Filled from the front, as the symbols are; the rest is null. */
     private final Text[] texts;
     private final Text[] symbols;
     private final Row bytes;
